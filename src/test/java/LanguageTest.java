@@ -1,0 +1,184 @@
+import java.lang.reflect.Constructor;
+import java.lang.reflect.Field;
+import java.lang.reflect.Member;
+import java.lang.reflect.Method;
+import java.lang.reflect.Modifier;
+import java.nio.file.Files;
+import java.nio.file.Path;
+import java.util.ArrayList;
+import java.util.Arrays;
+import java.util.List;
+import java.util.Set;
+import java.util.TreeSet;
+import java.util.regex.Matcher;
+import java.util.regex.Pattern;
+
+/** What of ../shared/LANGUAGE.md and of the document's public face a program can see in the source. */
+public final class LanguageTest {
+    private static final Due DUE = new Due();
+    private static final Path SOURCE = Path.of("src/main/java/HandsAlike.java");
+    private static final Path DOCUMENT = Path.of("../shared/DOC.md");
+
+    public static void main(String[] args) throws Exception {
+        theFace();
+        theClassesInside();
+        theSource(Files.readString(SOURCE));
+        theRoom();
+        DUE.end("LanguageTest");
+    }
+
+    private static void none(String rule, Object what) {
+        boolean empty = what == null || what.toString().isEmpty() || what.toString().equals("[]");
+        DUE.is(rule + ": " + what, empty, true);
+    }
+
+    private static Set<String> documented() throws Exception {
+        String document = Files.readString(DOCUMENT);
+        String face = document.substring(document.indexOf("```java"), document.indexOf("## Terms"));
+        Set<String> found = new TreeSet<>();
+        Matcher m = Pattern.compile("public (int|boolean) (\\w+)\\(([^)]*)\\);").matcher(face);
+        while (m.find()) {
+            found.add(m.group(1) + " " + m.group(2) + "(" + m.group(3).replaceAll(" \\w+(,|$)", "$1").replace(" ", "") + ")");
+        }
+        return found;
+    }
+
+    private static void theFace() throws Exception {
+        Class<?> c = HandsAlike.class;
+        DUE.is("public and final", c.getModifiers(), Modifier.PUBLIC | Modifier.FINAL);
+        Set<String> publics = new TreeSet<>();
+        Set<String> names = new TreeSet<>();
+        List<Member> hidden = new ArrayList<>();
+        for (Method m : c.getDeclaredMethods()) {
+            if (Modifier.isPublic(m.getModifiers())) {
+                String types = Arrays.toString(m.getParameterTypes()).replaceAll("[\\[\\] ]", "");
+                publics.add(m.getReturnType() + " " + m.getName() + "(" + types + ")");
+                names.add(m.getName());
+            } else {
+                hidden.add(m);
+            }
+        }
+        DUE.is("the document has 44 calls", documented().size(), 44);
+        DUE.is("the face is the document's", publics.equals(documented()), true);
+        for (Member m : hidden) {
+            DUE.is("private " + m.getName(), Modifier.isPrivate(m.getModifiers()), true);
+            DUE.is("bears no public name: " + m.getName(), names.contains(m.getName()), false);
+        }
+        for (Field f : c.getDeclaredFields()) {
+            boolean constant = f.getName().equals("NONE");
+            DUE.is("field " + f.getName(), constant ? Modifier.isPublic(f.getModifiers()) : Modifier.isPrivate(f.getModifiers()), true);
+        }
+        Constructor<?>[] made = c.getDeclaredConstructors();
+        DUE.is("one constructor", made.length == 1 && made[0].getParameterCount() == 0, true);
+    }
+
+    private static void theClassesInside() {
+        List<Class<?>> all = new ArrayList<>(List.of(HandsAlike.class.getDeclaredClasses()));
+        for (Class<?> c : all) {
+            DUE.is("static " + c, Modifier.isStatic(c.getModifiers()), true);
+            DUE.is("no class inside " + c, c.getDeclaredClasses().length, 0);
+            DUE.is("not seen " + c, c.getModifiers() & (Modifier.PUBLIC | Modifier.PROTECTED), 0);
+        }
+        all.add(HandsAlike.class);
+        DUE.is("some twelve classes", all.size() <= 12, true);
+        for (Class<?> c : all) {
+            int fields = 0;
+            for (Field f : c.getDeclaredFields()) {
+                if (Modifier.isStatic(f.getModifiers())) {
+                    DUE.is("static is final: " + f, Modifier.isFinal(f.getModifiers()), true);
+                } else {
+                    fields++;
+                }
+            }
+            DUE.is("some twenty fields: " + c, fields <= 20, true);
+            for (Method m : c.getDeclaredMethods()) {
+                DUE.is("at most seven parameters: " + m, m.getParameterCount() <= 7, true);
+            }
+        }
+    }
+
+    private static void theSource(String whole) {
+        String source = whole.replaceAll("(?s)/\\*.*?\\*/", "").replaceAll("//[^\\n]*", "");
+        source = source.replaceAll("\"[^\"\\n]*\"", "\"\"").replaceAll("'.'", "'0'");
+        List<String> bad = new ArrayList<>();
+        Matcher words = Pattern.compile("\\b(throw|throws|try|catch|synchronized|assert|import|package|System|Object|"
+            + "getClass|hashCode|toString|Exact|Thread|Random|double|float)\\b|->|::|@Override|Exact\\(").matcher(source);
+        while (words.find()) {
+            bad.add(words.group());
+        }
+        none("words that are not for it", bad);
+        List<String> calls = new ArrayList<>();
+        Matcher library = Pattern.compile("\\bMath\\.(\\w+)").matcher(source);
+        while (library.find()) {
+            if (!Set.of("min", "max", "abs", "floorDiv").contains(library.group(1))) {
+                calls.add(library.group());
+            }
+        }
+        none("functions of the library", calls);
+        // what is made is made with the object: no call takes of the room
+        List<String> makes = new ArrayList<>();
+        for (String line : source.split("\n")) {
+            if (line.contains("new ") && !line.matches("\\s+private (static )?(final )?[\\w\\[\\]]+ \\w+ = new .*;")) {
+                makes.add(line.trim());
+            }
+        }
+        none("made behind the constructor", makes);
+        none("methods of more than sixty lines", longMethods(whole.split("\n")));
+    }
+
+    private static List<String> longMethods(String[] lines) {
+        List<String> found = new ArrayList<>();
+        int indent = 4;
+        int from = -1;
+        int methods = 0;
+        for (int i = 0; i < lines.length; i++) {
+            if (from < 0 && lines[i].matches(" {4}\\S.*class .*\\{")) {
+                indent = 8;
+            } else if (from < 0 && lines[i].equals("    }")) {
+                indent = 4;
+            } else if (from < 0 && lines[i].matches(" {" + indent + "}[^ /*].*\\) \\{")) {
+                from = i;
+                methods++;
+            } else if (from >= 0 && lines[i].matches(" {" + indent + "}\\}")) {
+                if (i - from + 1 > 60) {
+                    found.add(lines[from].trim());
+                }
+                from = -1;
+            }
+        }
+        DUE.is("the methods were found", methods > 120, true);
+        return found;
+    }
+
+    private static void theRoom() throws Exception {
+        long[] room = new long[2];
+        weigh(new HandsAlike(), room, new ArrayList<>());
+        System.out.println("one object takes " + room[0] + " objects and arrays, " + room[1] + " fields and elements");
+        // an object for each of 512 calls would still fit
+        DUE.is("objects", room[0] <= 600000 / 512, true);
+        DUE.is("elements", room[1] <= 7300000 / 512, true);
+    }
+
+    private static void weigh(Object o, long[] room, List<Object> seen) throws Exception {
+        for (Object s : seen) {
+            if (s == o) {
+                return;
+            }
+        }
+        seen.add(o);
+        room[0]++;
+        if (o.getClass().isArray()) {
+            room[1] += java.lang.reflect.Array.getLength(o);
+            return;
+        }
+        for (Field f : o.getClass().getDeclaredFields()) {
+            if (!Modifier.isStatic(f.getModifiers())) {
+                room[1]++;
+                f.setAccessible(true);
+                if (!f.getType().isPrimitive() && f.get(o) != null) {
+                    weigh(f.get(o), room, seen);
+                }
+            }
+        }
+    }
+}
