@@ -744,7 +744,9 @@ public final class HandsAlike {
         }
 
         void expect(int sign) {
-            if (!take(sign)) {
+            if (next() == sign) {
+                place++;
+            } else {
                 fail(CANNOT_STAND, place);
             }
         }
@@ -916,10 +918,13 @@ public final class HandsAlike {
         }
 
         private int listOrdered(int shortMark, int longMark, int[] row, int from) {
+            int many = 0;
             int time = lowest(shortMark, longMark);
-            int many = time < 0 ? 0 : manyAt(shortMark, longMark);
-            for (int i = 0; i < many && from + i < row.length; i++) {
-                row[from + i] = time + i * marks;
+            int end = (shortMark + 1) * turns;
+            while (time >= 0 && time < end && from + many < row.length) {
+                row[from + many] = time;
+                time += marks;
+                many++;
             }
             return many;
         }
@@ -935,7 +940,7 @@ public final class HandsAlike {
         }
 
         private int listAlikes(int time) {
-            return Math.min(dial.list(dial.shortAt(time), dial.longAt(time), alikes, 0), alikes.length);
+            return dial.list(dial.shortAt(time), dial.longAt(time), alikes, 0);
         }
 
         int nextAlike(int time) {

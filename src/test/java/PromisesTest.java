@@ -103,6 +103,10 @@ public final class PromisesTest {
         DUE.is("tape stays", town.count(6), 260);
         DUE.is("law 240", town.law(240), -1000);
         DUE.is("a fault empties the tape", town.count(6), 0);
+        Due.feed(town, new int[120]);
+        DUE.is("clocks 120", town.clocks(120), -1000);
+        Due.feed(town, new int[160]);
+        DUE.is("book 160", town.book(160), -1000);
         DUE.is("clocks of an empty tape", town.clocks(1), -1);
         town.feed(0, 0, 0, 0, 0);
         DUE.is("law of more than there are", town.law(21), -1);
@@ -150,6 +154,7 @@ public final class PromisesTest {
         DUE.is("the next of many", town.reads(1, 3), 5);
         DUE.is("the next of many, round", town.reads(21, 3), 24);
         DUE.is("the next behind the last", town.reads(44, 3), 1);
+        DUE.is("the next behind the last, one MARK", town.reads(20, 3), 0);
         DUE.is("the lowest in a mirror", town.reads(9, 4), 3);
         DUE.is("the lowest exchanged", town.exchanged(9), 24);
     }
@@ -553,6 +558,15 @@ public final class PromisesTest {
         for (int[] w : bad) {
             DUE.is("good times " + w[0] + " " + w[1], town.goodTimes(w[0], w[1], w[2], w[3]), -1);
         }
+        Due.book(town, "ab@10:12;ba@0:99");
+        DUE.is("there at once", town.appointment(0, 5), 0);
+        DUE.is("waits from 0 on", town.appointment(0, 7), 10);
+        DUE.is("meets from 0 on", town.appointment(0, 6), 1);
+        DUE.is("waits in vain from 0 on", town.appointment(1, 7), 99);
+        HandsAlike large = new HandsAlike();
+        large.dial(60, 24);
+        Due.clocks(large, "a@1;b@1");
+        DUE.is("all TIMES are good", large.goodTimes(0, 1, 0, 0), 1440);
         Due.clocks(town, "a@0+99;b@0-99");
         // a: 10 and 0.99 is 10, 11 and 1.089 is 12; but 666 and 65.934 is 731, round 11
         DUE.is("jumped over", Due.book(town, "ab@11:9;ab@111:9"), 2);
