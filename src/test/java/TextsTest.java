@@ -10,6 +10,9 @@ public final class TextsTest {
         lawDepth();
         lawLength();
         aFaultChangesNothing();
+        numbersOfBytes();
+        theLongestTexts();
+        theFirstFromTheLeft();
         DUE.end("TextsTest");
     }
 
@@ -255,5 +258,120 @@ public final class TextsTest {
         DUE.is("a fault of clocks", Due.clocks(town, "b@5;c@6+7;x"), -1010);
         DUE.is("the CLOCKS of before", town.count(1), 1);
         DUE.is("the CLOCK of before", town.clockIs(0, 0), 100);
+    }
+
+    /** n of promises 4, 5 and 6: too small, too large, more than there are. */
+    private static void numbersOfBytes() {
+        int[] never = {Integer.MIN_VALUE, -1, 0, 241, 260, 261, Integer.MAX_VALUE};
+        HandsAlike town = new HandsAlike();
+        Due.feed(town, new int[260]);
+        for (int n : never) {
+            DUE.is("law " + n, town.law(n), -1);
+            DUE.is("clocks " + n, town.clocks(n), -1);
+            DUE.is("book " + n, town.book(n), -1);
+        }
+        DUE.is("clocks 121", town.clocks(121), -1);
+        DUE.is("book 161", town.book(161), -1);
+        DUE.is("the tape stays", town.count(6), 260);
+        DUE.is("law 240 of 260", town.law(240), -1000);
+        DUE.is("all of it is empty then", town.count(6), 0);
+        Due.feed(town, new int[260]);
+        DUE.is("clocks 120 of 260", town.clocks(120), -1000);
+        DUE.is("all of it is empty then", town.count(6), 0);
+        Due.feed(town, new int[260]);
+        DUE.is("book 160 of 260", town.book(160), -1000);
+        DUE.is("all of it is empty then", town.count(6), 0);
+        DUE.is("law of an empty tape", town.law(1), -1);
+        DUE.is("clocks of an empty tape", town.clocks(1), -1);
+        DUE.is("book of an empty tape", town.book(1), -1);
+        Due.feed(town, Due.bytes("a@719;b@0;c@00-00;d@"));
+        DUE.is("law of 21 of 20", town.law(21), -1);
+        DUE.is("clocks of 21 of 20", town.clocks(21), -1);
+        DUE.is("book of 21 of 20", town.book(21), -1);
+        DUE.is("the end can't stand there", town.clocks(20), -1020);
+        Due.feed(town, Due.bytes("a@719;b@0;c@00-00;d@"));
+        DUE.is("the first n bytes alone", town.clocks(17), 3);
+        DUE.is("what is behind them goes, too", town.count(6), 0);
+        String[] ones = {"x", "g", "l", "s"};
+        for (String one : ones) {
+            ruled(one, -1001);
+        }
+        ruled(";", -1000);
+        clock("h", -1001);
+        booked("h", -1001);
+    }
+
+    private static String digitsOf(int length) {
+        StringBuilder e = new StringBuilder("1");
+        while (e.length() < length) {
+            e.append(e.length() + 1 < length ? "+1" : "1");
+        }
+        return e.toString();
+    }
+
+    private static void theLongestTexts() {
+        HandsAlike town = new HandsAlike();
+        StringBuilder book = new StringBuilder("ab@0719:99");
+        for (int i = 1; i < 14; i++) {
+            book.append(";ab@0719:99");
+        }
+        book.append(";gh@5:7");
+        DUE.is("160 bytes", book.length(), 160);
+        DUE.is("a BOOK of 160 bytes", Due.book(town, book.toString()), 15);
+        DUE.is("its last byte", town.appointment(14, 3), 7);
+        Due.feed(town, Due.bytes(book + "7"));
+        DUE.is("a BOOK of 161 bytes", town.book(161), -1);
+        DUE.is("but of its first 160", town.book(160), 15);
+        String law = "s" + digitsOf(233) + "(1=1)";
+        DUE.is("239 bytes", law.length(), 239);
+        DUE.is("a LAW of 239 bytes", Due.law(town, law), 1);
+        law = "s" + digitsOf(233) + "(1=1);";
+        DUE.is("a LAW that ends with a ;", Due.law(town, law), -1240);
+        law = "s" + digitsOf(234) + "(1=1)";
+        DUE.is("a LAW of 240 bytes", Due.law(town, law), 1);
+        Due.feed(town, Due.bytes(law + ";"));
+        DUE.is("a LAW of 241 bytes", town.law(241), -1);
+        DUE.is("but of its first 240", town.law(240), 1);
+        StringBuilder clocks = new StringBuilder("a@0719+99");
+        for (char c = 'b'; c <= 'h'; c++) {
+            clocks.append(';').append(c).append("@0719-99");
+        }
+        DUE.is("no right text of CLOCKS is longer", Due.clocks(town, clocks.toString()), 8);
+        DUE.is("its last number", town.clockIs(7, 1), -99);
+        StringBuilder tooLong = new StringBuilder(clocks);
+        while (tooLong.length() < 120) {
+            tooLong.append('x');
+        }
+        DUE.is("CLOCKS of 120 bytes", Due.clocks(town, tooLong.toString()), -1000 - clocks.length());
+        Due.feed(town, Due.bytes(tooLong + "x"));
+        DUE.is("CLOCKS of 121 bytes", town.clocks(121), -1);
+    }
+
+    /** Of several FAULTS the first from the left; FAULT 3 is asked when the number ends. */
+    private static void theFirstFromTheLeft() {
+        clock("a@720;a@1", -3002);
+        clock("a@1;a@720", -6004);
+        clock("a@1+111;a@1", -2006);
+        clock("a@10000", -2006);
+        clock("a@7200+111", -3002);
+        clock("a@72000+111", -2006);
+        booked("aa@720:111", -6001);
+        booked("ab@720:111", -3003);
+        booked("ab@7200;", -3003);
+        booked("ab@72000:1", -2007);
+        booked("ab@1:111;aa", -2007);
+        booked("ab@1:11;aa@72000", -6009);
+        booked("ai@720:1", -1001);
+        ruled("x(111111=[[[[[[[1", -2007);
+        ruled("x(1=[[[[[[[111111", -5009);
+        ruled("g111111y", -2006);
+        ruled("gy111111", -1001);
+        StringBuilder many = new StringBuilder("x(1=1)");
+        for (int i = 1; i < 16; i++) {
+            many.append(";x(1=1)");
+        }
+        ruled(many + ";g111111", -4000 - many.length() - 1);
+        ruled(many + "g", -1000 - many.length());
+        ruled(many.toString().replace("x(1=1);x(1=1);x", "x(1=1);x(1=1;x") + ";g", -1000 - 12);
     }
 }
