@@ -31,6 +31,7 @@ public final class ClockEdgesTest {
         theGainOfADay();
         theWayOfADay();
         setAtItsMost();
+        askedBefore();
         promise39();
         promise40();
         promise41();
@@ -182,6 +183,10 @@ public final class ClockEdgesTest {
         }
         DUE.is("30: of like ones the lowest, both ways", town.nearest(0, 0), 2);
         DUE.is("30: the shorter way", town.nearest(0, 1), 359);
+        DUE.is("30: the first CLOCK", town("a@1;b@2").nearest(0, 0), 0);
+        DUE.is("30: the first CLOCK, by", town("a@1;b@2").nearest(0, 1), 1);
+        DUE.is("30: not the first CLOCK", town("a@2;b@1;c@3").nearest(0, 0), 1);
+        DUE.is("30: the first CLOCK alone", town("a@0").nearest(0, 0), 0);
         DUE.is("30: half round", town("b@360").nearest(719, 1), 360);
         DUE.is("30: round, ahead", town("b@719").nearest(719, 1), 1);
         DUE.is("30: round, behind", town("b@1").nearest(719, 1), 1);
@@ -202,6 +207,8 @@ public final class ClockEdgesTest {
         DUE.is("31: how many", town.most(0, 1), 2);
         DUE.is("31: round the other one is lower", town.most(1, 0), 0);
         DUE.is("31: the last TICK", town.most(719, 0), 2);
+        DUE.is("31: the first CLOCK alone", town("a@7").most(0, 0) * 10 + town("a@7").most(0, 1), 71);
+        DUE.is("31: the first CLOCK shows the lowest", town("a@7;b@8").most(0, 0), 7);
         DUE.is("31: all eight", town("a@0;b@0;c@0;d@0;e@0;f@0;g@0;h@0").most(719, 1), 8);
         DUE.is("31: each another one", town("f@9;g@8;h@7").most(0, 0) * 10 + town("f@9;g@8;h@7").most(0, 1), 71);
     }
@@ -252,6 +259,8 @@ public final class ClockEdgesTest {
         // both go alike up to TICK 10, then c leaves 11 out
         DUE.is("34: 0 TICKS", town.goodTimes(0, 2, 0, 0), 11);
         DUE.is("34: 0 TICKS, the first", town.goodTimes(0, 2, 0, 1), 0);
+        // b shows 0 to 711, each at most 8 TICKS later; 712 would be shown at TICK 720
+        DUE.is("34: to the end of THE DAY", town("a@0;b@0-10").goodTimes(0, 1, 99, 0), 712);
         HandsAlike small = town(4, 2, "a@0;b@4");
         DUE.is("34: 4 TICKS of 8", small.goodTimes(0, 1, 4, 0), 8);
         DUE.is("34: 3 TICKS of 8", small.goodTimes(0, 1, 3, 0), 0);
@@ -314,12 +323,23 @@ public final class ClockEdgesTest {
         DUE.is("36: at the last TICK nobody waits", town.appointment(6, 7), 0);
         DUE.is("36: there at TICK 0", town.appointment(7, 5), 0);
         DUE.is("36: MET from TICK 0 on", town.appointment(7, 6) * 100 + town.appointment(7, 7), 110);
+        DUE.is("36: MET from TICK 0 on, by the first", Due.book(town, "ba@10:99"), 1);
+        DUE.is("36: the first waits from TICK 0 on", town.appointment(0, 7), 10);
+        Due.book(town, "ah@0:7;ha@0:7");
+        DUE.is("36: there alone at TICK 0", town.appointment(0, 7), 7);
+        DUE.is("36: the second alone at TICK 0", town.appointment(1, 7), 7);
+        Due.book(town, "ab@50:10;ab@50:9;ab@5:99;ah@50:99;ha@50:0;ca@111:7;ad@719:0;ab@10:10;cd@0:0");
         DUE.is("36: both at TICK 0", town.appointment(8, 6) * 100 + town.appointment(8, 4) + town.appointment(8, 5), 100);
         Due.clocks(town, "a@0-1");
         // 0 is SHOWN at 0 and at 1: the first counts
         Due.book(town, "ab@0:5;ba@718:5");
         DUE.is("36: shown twice, the first", town.appointment(0, 4), 0);
         DUE.is("36: shown late", town.appointment(1, 5), 719);
+        Due.clocks(town, "a@0-10");
+        Due.book(town, "ab@711:5;ab@712:5");
+        DUE.is("36: shown at the last TICK", town.appointment(0, 4), 719);
+        DUE.is("36: TICK 720 is not of THE DAY", town.appointment(1, 4), -2);
+        DUE.is("36: nobody is there", town.appointment(1, 7), 0);
     }
 
     private static void promise37() {
@@ -384,6 +404,8 @@ public final class ClockEdgesTest {
         DUE.is("40: none goes by", town.together(0, 1, 1), -2);
         town.setBy(0, 1);
         DUE.is("40: they are", town.together(0, 1, 1), 0);
+        Due.clocks(town, "a@0;b@1");
+        DUE.is("40: though a DAY more would do", town.together(0, 1, 1), -2);
         DUE.is("42: 9999", town.keep(), 9999);
         // t of DAY 9999 can't be asked: none goes by
         DUE.is("43: 9999 again", town.undo(), true);
@@ -430,6 +452,16 @@ public final class ClockEdgesTest {
         DUE.is("Terms: nor from within", gained("g7(!(1=1&!(2=2&1%0=0))|1=1);g5(1=1)"), 5);
         DUE.is("Terms: what does not matter is not asked: |", gained("g7(1=1|1/0=0)"), 7);
         DUE.is("Terms: what does not matter is not asked: &", gained("g7(1=2&1/0=0|1=1)"), 7);
+        DUE.is("Terms: of several TESTS the first fails", gained("g7(1=2&1=1&1=1|1=1)"), 7);
+        DUE.is("Terms: of several PARTS the first holds", gained("g7(1=1|1=2|1/0=1)"), 7);
+        DUE.is("Terms: the contrary of such PARTS", gained("g7(!(1=1|1=2|1=2))"), 0);
+        DUE.is("Terms: the contrary of TESTS", gained("g7(!(1=2&1=1))"), 7);
+        DUE.is("Terms: the contrary of TESTS, as much as matters", gained("g7(!(1=2&1/0=1))"), 7);
+        DUE.is("Terms: a C within a C", gained("g7((1=2&1=1)|1=1)"), 7);
+        DUE.is("Terms: the contrary of <", gained("g7(!1<2);g5(!2<1)"), 5);
+        DUE.is("Terms: the contrary of >", gained("g7(!2>1);g5(!1>2)"), 5);
+        DUE.is("Terms: the next RULE is not asked", gained("g7(1=1);g1/0(1=1)"), 7);
+        DUE.is("Terms: nor is its C", gained("g7(1=1);g1(1/0=1)"), 7);
         DUE.is("Terms: both sides of a TEST matter", gained("g7(0=1/0|1=1);g5(1=1)"), 5);
     }
 
@@ -467,6 +499,8 @@ public final class ClockEdgesTest {
         DUE.is("Terms: a DAY of GAIN -99, rounded down, round", aheadBehind(town("a@0-99"), "x(1=2)"), 720 - 72);
         DUE.is("Terms: GAIN 1 of 720 TICKS", aheadBehind(town("a@0+1"), "x(1=2)"), 0);
         DUE.is("Terms: GAIN -1 of 720 TICKS", aheadBehind(town("a@0-1"), "x(1=2)"), 719);
+        DUE.is("Terms: just a thousand", aheadBehind(town(50, 20, "a@0+1"), "x(1=2)"), 1);
+        DUE.is("Terms: 1998 are one thousand", aheadBehind(town(37, 18, "a@0+3"), "x(1=2)"), 1);
         DUE.is("Terms: GAIN of before", aheadBehind(town("a@0"), "g20(1=1)"), 0);
         DUE.is("Terms: less by s, round", aheadBehind(town("a@0"), "s1(1=1)"), 719);
         DUE.is("Terms: less by more than a round", aheadBehind(town("a@0"), "s999(1=1)"), 441);
@@ -675,5 +709,38 @@ public final class ClockEdgesTest {
         DUE.is("45: SET of all", town.count(8), 2);
         town.dial(60, 12);
         DUE.is("45: SET of none", town.count(8), 0);
+    }
+
+    /** What was asked or told before leaves nothing behind. */
+    private static void askedBefore() {
+        HandsAlike town = town("a@0;b@0;c@0+99;d@620+10");
+        DUE.is("34: all TIMES", town.goodTimes(0, 1, 99, 0), 720);
+        // c leaves 64 TIMES out, and is at most 71 TICKS early
+        DUE.is("34: those that are left out", town.goodTimes(0, 2, 99, 0), 656);
+        DUE.is("34: all TIMES again", town.goodTimes(0, 1, 99, 1), 0);
+        // d goes from 719 at TICK 99 to 1 at TICK 100
+        DUE.is("34: TIME 0 is left out", town.goodTimes(0, 3, 99, 1), 1);
+        town.setBy(0, 1);
+        town.tried(1, 0);
+        town.together(2, 3, 1);
+        Due.clocks(town, "a@0;b@0");
+        DUE.is("5: SET 0, though it was tried with more", town.clockIs(0, 2) + town.count(8), 0);
+        StringBuilder sixteen = new StringBuilder();
+        for (int i = 0; i < 16; i++) {
+            sixteen.append(i == 0 ? "" : ";").append("s5+5+5(1=2)");
+        }
+        for (int i = 0; i < 6; i++) {
+            DUE.is("4: sixteen RULES", Due.law(town, sixteen.toString()), 16);
+        }
+        DUE.is("4: none of sixteen holds", town.tried(1, 10), 0);
+        for (int i = 0; i < 6; i++) {
+            Due.law(town, sixteen.substring(0, sixteen.length() - 2) + "1)");
+        }
+        DUE.is("4: the last of sixteen holds", town.tried(1, 10), 705);
+        Due.law(town, sixteen.toString().replace("s5+5+5", "x"));
+        DUE.is("4: none of sixteen x holds", town.tried(1, 0), 0);
+        Due.law(town, "g1(1=1)");
+        DUE.is("4: one in place of sixteen", town.count(5), 1);
+        DUE.is("4: none of s any more", town.tried(1, 10), 0);
     }
 }

@@ -32,6 +32,7 @@ public final class DialEdgesTest {
         promise22();
         promise23();
         promise24();
+        askedBefore();
         DUE.end("DialEdgesTest");
     }
 
@@ -221,8 +222,27 @@ public final class DialEdgesTest {
         DUE.is("10: of like ones the lowest R", town.bestDial(6, 0), 2);
         DUE.is("10: how many can't", town.bestDial(6, 1), 4);
         DUE.is("10: asked again", town.bestDial(6, 0), 2);
+        for (int other = 4; other <= 60; other++) {
+            DUE.is("10: the R of " + other + " MARKS", town.bestDial(other, 0), fewestUntold(other));
+        }
         DUE.is("10: THE DIAL stays", town.count(3) * 100 + town.count(4), 402);
         DUE.is("10: its TIMES stay", town.untold(0), 2);
+    }
+
+    /** The R by which the fewest can't be told, by all DIALS one behind the other. */
+    private static int fewestUntold(int marks) {
+        HandsAlike town = new HandsAlike();
+        int best = 0;
+        long fewest = 0;
+        for (int turns = 2; turns <= 24; turns++) {
+            town.dial(marks, turns);
+            long many = town.untold(0);
+            if (best == 0 || many * best < fewest * turns) {
+                best = turns;
+                fewest = many;
+            }
+        }
+        return best;
     }
 
     private static void promise11() {
@@ -522,6 +542,10 @@ public final class DialEdgesTest {
         DUE.is("24: 29 and on", town.wheels(29, 40, 1), -2);
         // 28 28 drive 1568, which no two of 28 to 40 make but 39.2 40
         DUE.is("24: 28 and on", town.wheels(28, 40, 0), 0);
+        // by products: 72 4, 84 4, 96 4, 108 4, 120 4, 132 4, 144 2 and 2
+        DUE.is("24: twelve teeth at most", town.wheels(6, 12, 0), 28);
+        DUE.is("24: only 6 6 drive 12 12", town(60, 4).wheels(6, 12, 0), 1);
+        DUE.is("24: only one way, in all", town(60, 4).wheels(6, 12, 1), 36);
         HandsAlike most = town(60, 24);
         // 6 6 drive 864: 27 times 32
         DUE.is("24: 31 teeth do not do", most.wheels(6, 31, 0), 0);
@@ -529,5 +553,30 @@ public final class DialEdgesTest {
         DUE.is("24: 32 teeth", most.wheels(6, 32, 0), 2);
         DUE.is("24: 32 teeth, in all", most.wheels(6, 32, 1), 71);
         DUE.is("24: of all teeth the fewest", most.wheels(6, 40, 1), 71);
+    }
+
+    /** What was asked before leaves nothing behind. */
+    private static void askedBefore() {
+        HandsAlike six = six();
+        six.glance(2);
+        DUE.is("13: behind another glance", six.glance(9), 1);
+        HandsAlike town = town(4, 24);
+        // 0 1: 1 5 .. 21 and 24 28 .. 44; 0 0: 0 4 .. 20
+        int[] eight = {0, 1, 0, 1, 0, 1, 0, 1, 0, 1, 0, 1, 0, 1, 0, 1};
+        DUE.is("16: rows of eight", Due.photographs(town, 0, 0, 100, eight), 12);
+        DUE.is("16: again", Due.photographs(town, 0, 0, 100, eight), 12);
+        DUE.is("16: not sure, of eight", Due.photographs(town, 0, 0, 7, eight), -2);
+        DUE.is("16: not sure, of eight again", Due.photographs(town, 0, 0, 7, eight), -2);
+        DUE.is("16: none, behind those", Due.photographs(town, 0, 0, 1, 0, 0, 0, 1), -4);
+        DUE.is("16: no row, behind those", Due.photographs(town, 0, 0, 100, 0, 0, 0, 1), 0);
+        DUE.is("16: the later half of the first", Due.photographs(town, 72, 72, 1, 0, 1, 0, 0), -2);
+        DUE.is("16: six rows", Due.photographs(town, 72, 72, 100, 0, 1, 0, 0), 6);
+        DUE.is("17: six, behind eight", Due.anyOrder(town, 0, 0, 0, 0, 0, 0, 0, 0, 0, 0, 0, 0, 0, 0, 0), 720 * 6);
+        DUE.is("17: bits of six, behind eight", Due.anyOrder(town, 0, 0, 1, 0, 0, 0, 0, 0, 0, 0, 0, 0, 0, 0, 0), 63);
+        DUE.is("17: one, behind eight", Due.anyOrder(town, 0, 0, 0, 0, 0), 6);
+        DUE.is("17: bits of one, behind eight", Due.anyOrder(town, 0, 0, 1, 0, 0), 1);
+        DUE.is("17: none, behind eight", Due.anyOrder(town, 1, 1, 1, 0, 0, 0, 0), 0);
+        town.dial(4, 2);
+        DUE.is("16: on another DIAL", Due.photographs(town, 0, 0, 100, 0, 1), 1);
     }
 }

@@ -64,6 +64,11 @@ public final class LanguageTest {
             DUE.is("private " + m.getName(), Modifier.isPrivate(m.getModifiers()), true);
             DUE.is("bears no public name: " + m.getName(), names.contains(m.getName()), false);
         }
+        for (Class<?> inside : c.getDeclaredClasses()) {
+            for (Method m : inside.getDeclaredMethods()) {
+                DUE.is("bears no public name: " + m, names.contains(m.getName()), false);
+            }
+        }
         for (Field f : c.getDeclaredFields()) {
             boolean constant = f.getName().equals("NONE");
             DUE.is("field " + f.getName(), constant ? Modifier.isPublic(f.getModifiers()) : Modifier.isPrivate(f.getModifiers()), true);
