@@ -1,3 +1,5 @@
+import java.io.PrintWriter;
+import java.io.StringWriter;
 import java.lang.reflect.Constructor;
 import java.lang.reflect.Field;
 import java.lang.reflect.Member;
@@ -8,10 +10,14 @@ import java.nio.file.Path;
 import java.util.ArrayList;
 import java.util.Arrays;
 import java.util.List;
+import java.util.Map;
+import java.util.Optional;
 import java.util.Set;
+import java.util.TreeMap;
 import java.util.TreeSet;
 import java.util.regex.Matcher;
 import java.util.regex.Pattern;
+import java.util.spi.ToolProvider;
 
 /** What of ../shared/LANGUAGE.md and of the document's public face a program can see in the source. */
 public final class LanguageTest {
@@ -24,6 +30,7 @@ public final class LanguageTest {
         theClassesInside();
         theSource(Files.readString(SOURCE));
         theRoom();
+        theDepth();
         DUE.end("LanguageTest");
     }
 
@@ -185,5 +192,69 @@ public final class LanguageTest {
                 }
             }
         }
+    }
+
+    /** Rule 11: the longest way from call to call on which no method comes twice, by what was compiled. */
+    private static void theDepth() {
+        Optional<ToolProvider> javap = ToolProvider.findFirst("javap");
+        if (javap.isEmpty()) {
+            System.out.println("no javap here: how deep calls go was not looked at");
+            return;
+        }
+        List<String> arguments = new ArrayList<>(List.of("-c", "-p", "-cp", System.getProperty("java.class.path"), "HandsAlike"));
+        for (Class<?> inside : HandsAlike.class.getDeclaredClasses()) {
+            arguments.add(inside.getName());
+        }
+        StringWriter out = new StringWriter();
+        PrintWriter to = new PrintWriter(out);
+        DUE.is("javap", javap.get().run(to, to, arguments.toArray(new String[0])), 0);
+        Map<String, Set<String>> calls = callsIn(out.toString());
+        DUE.is("the calls were found", calls.size() > 150, true);
+        int deepest = 0;
+        for (String from : calls.keySet()) {
+            deepest = Math.max(deepest, depthFrom(from, calls, new TreeSet<>()));
+        }
+        System.out.println("calls go " + deepest + " deep");
+        DUE.is("eight deep at most", deepest <= 8, true);
+    }
+
+    private static Map<String, Set<String>> callsIn(String listing) {
+        Map<String, Set<String>> calls = new TreeMap<>();
+        Pattern type = Pattern.compile("^.*\\bclass (HandsAlike[$\\w]*) .*$");
+        Pattern method = Pattern.compile("^  [^ ].*?([$\\w]+)\\(.*\\);$");
+        Pattern call = Pattern.compile("// Method (?:(HandsAlike[$\\w]*)\\.)?(\\w+|\"<init>\"):.*$");
+        String in = "";
+        String from = "";
+        for (String line : listing.split("\\R")) {
+            Matcher m = type.matcher(line);
+            if (m.matches()) {
+                in = m.group(1);
+                continue;
+            }
+            m = method.matcher(line);
+            if (m.matches()) {
+                from = in + "." + (m.group(1).equals(in) ? "\"<init>\"" : m.group(1));
+                calls.put(from, new TreeSet<>());
+                continue;
+            }
+            m = call.matcher(line);
+            if (m.find() && calls.containsKey(from)) {
+                calls.get(from).add((m.group(1) == null ? in : m.group(1)) + "." + m.group(2));
+            }
+        }
+        return calls;
+    }
+
+    /** What is not in the list is the library's. */
+    private static int depthFrom(String from, Map<String, Set<String>> calls, Set<String> open) {
+        if (!calls.containsKey(from) || !open.add(from)) {
+            return 0;
+        }
+        int deepest = 0;
+        for (String to : calls.get(from)) {
+            deepest = Math.max(deepest, depthFrom(to, calls, open));
+        }
+        open.remove(from);
+        return deepest + 1;
     }
 }
